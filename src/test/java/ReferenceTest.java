@@ -448,15 +448,22 @@ public final class ReferenceTest {
         return agrees;
     }
 
+    private static BundleAuction rich() {
+        BundleAuction real = new BundleAuction();
+        real.fund(0, 100000);
+        real.deposit(0, 100000);
+        return real;
+    }
+
     /** Every text of up to five characters of those that matter, and what becomes of it. */
     private static boolean shortTexts() {
         char[] some = "19ab^+<()g ".toCharArray();
         int count = some.length + 1;
         boolean agrees = true;
-        BundleAuction real = new BundleAuction();
-        real.fund(0, 100000);
-        real.deposit(0, 100000);
+        BundleAuction real = rich();
         for (int code = 0; code < count * count * count * count * count; code++) {
+            // A text takes at most seven calls, and nothing is promised of an object behind its 512th.
+            if (code % 70 == 0) real = rich();
             StringBuilder text = new StringBuilder();
             for (int rest = code; rest > 0; rest /= count) {
                 if (rest % count > 0) text.append(some[rest % count - 1]);
