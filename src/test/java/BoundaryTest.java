@@ -554,6 +554,19 @@ public final class BoundaryTest {
         test("The house is OPEN (0) or CLOSED (1)", () -> new House().state(0).close(0).state(1).reopen(true).state(0));
     }
 
+    private static void refusals() {
+        Consumer<House> always = h -> h.fund(5, 1, false).fund(0, 0, false).fund(0, 100001, false)
+            .deposit(-1, 1, false).deposit(0, 0, false).deposit(0, 5000, false).withdraw(5, false)
+            .reserve(6, 1, false).reserve(0, 1000, false).type(31, false).type(127, false).submit(5, REFUSED)
+            .worth(5, 0, REFUSED).worth(0, 64, REFUSED).parts(-1, REFUSED).welfare(-2, REFUSED).welfare(5, REFUSED)
+            .owner(6, REFUSED).paid(5, REFUSED).cash(5, REFUSED).escrow(-1, REFUSED);
+        test("A call that is refused changes nothing: all of them in a row, open", () -> refusedIn(false,
+            always.andThen(h -> h.reopen(false).owner(0, REFUSED).paid(0, REFUSED))));
+        test("A call that is refused changes nothing: all of them in a row, closed", () -> refusedIn(true,
+            always.andThen(h -> h.close(REFUSED).submit(0, REFUSED).deposit(0, 1, false).withdraw(0, false)
+                .reserve(0, 0, false))));
+    }
+
     private static void constants() {
         test("NONE = -1, REFUSED = -2, OVER = -3", () -> {
             if (NONE != -1 || REFUSED != -2 || OVER != -3) tell("they are " + NONE + ", " + REFUSED + ", " + OVER);
@@ -875,6 +888,7 @@ public final class BoundaryTest {
         worths();
         allocations();
         payments();
+        refusals();
         constants();
         fund();
         deposit();
