@@ -122,9 +122,7 @@ public final class BundleAuction {
             return REFUSED;
         }
         int score = sharing.greatestScore(worthOf, reserveOf, NONE);
-        for (int item = 0; item < ITEMS; item++) {
-            ownerOf[item] = Sharing.ownerIn(score, item);
-        }
+        Sharing.writeOwners(score, ownerOf);
         int most = Sharing.welfareIn(score);
         for (int bidder = 0; bidder < BIDDERS; bidder++) {
             settle(bidder, most);
@@ -331,7 +329,8 @@ public final class BundleAuction {
 
         private boolean readAtom(int depth) {
             if (!sees('(')) {
-                return readBundle();
+                // A bundle begins with its first digit, so a thirteenth one is at fault there, whatever follows.
+                return beginPart() && readNumber() && readLetters();
             }
             if (depth >= MOST_BRACKETS) {
                 return false;
@@ -341,21 +340,6 @@ public final class BundleAuction {
                 return false;
             }
             place++;
-            return true;
-        }
-
-        private boolean readBundle() {
-            // A bundle begins with its first digit, so a thirteenth one is at fault there, whatever follows.
-            if (!seesDigit() || !beginPart() || !readNumber()) {
-                return false;
-            }
-            int letters = readLetters();
-            if (letters == 0) {
-                return false;
-            }
-            for (int set = 0; set < SETS; set++) {
-                value[set] = (set & letters) == letters ? number : 0;
-            }
             return true;
         }
 
@@ -371,17 +355,21 @@ public final class BundleAuction {
             return true;
         }
 
-        private int readLetters() {
+        // A letter that is there twice is not taken: the reading then ends in front of it, as no sign stands there.
+        private boolean readLetters() {
             int letters = 0;
             for (int count = 0; count < ITEMS && seesLetter(); count++) {
                 int letter = 1 << (text[place] - 'a');
                 if ((letters & letter) != 0) {
-                    return letters;
+                    break;
                 }
                 letters |= letter;
                 place++;
             }
-            return letters;
+            for (int set = 0; set < SETS; set++) {
+                value[set] = (set & letters) == letters ? number : 0;
+            }
+            return letters != 0;
         }
 
         private boolean takeSign() {
@@ -465,9 +453,13 @@ public final class BundleAuction {
             return (score + RANKS - 1) / RANKS;
         }
 
-        static int ownerIn(int score, int item) {
+        // The rank's digits stand in the order of the items, so the last item's comes off first.
+        static void writeOwners(int score, int[] ownerOf) {
             int rank = welfareIn(score) * RANKS - score;
-            return rank / ITEM_RANK[item] % OWNERS - 1;
+            for (int item = ITEMS - 1; item >= 0; item--) {
+                ownerOf[item] = rank % OWNERS - 1;
+                rank /= OWNERS;
+            }
         }
 
         private void scoreBidder(int[] worths, int digit) {

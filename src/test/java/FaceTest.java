@@ -74,7 +74,8 @@ public final class FaceTest {
         x.withdraw(m);
     }
 
-    // A call that throws ends the test with an exit code of its own.
+    // A call that throws ends the test with an exit code of its own. No answer is asked here, so the object may go far
+    // beyond its 512 calls: rule 7 of LANGUAGE.md lets no call throw in any state.
     private static void wildArguments() {
         BundleAuction x = new BundleAuction();
         for (int m : WILD) {
