@@ -5,7 +5,7 @@ import java.util.regex.Matcher;
 import java.util.regex.Pattern;
 
 /**
- * Holds what submit answers against the document's sentence on the fault of a text, taken word for word: a row of
+ * Holds what submit answers against the document's sentence on the fault of a text, taken word by word: a row of
  * characters is the beginning of a BID when something can be written behind it so that it is one. What a BID is
  * is asked of regular expressions, brackets being taken away from the inside; nothing here reads from left to right.
  */
@@ -25,16 +25,12 @@ public final class FaultTest {
     private static final String[] ENDS = {"", "a", "1", "1a"};
 
     private static boolean isBid(String text) {
-        String rest = bundlesDone(text);
+        // What is glued to a bundle, such as a fourth digit, stays and is in the way of a match.
+        String rest = BUNDLES.matcher(text).replaceAll(DONE);
         for (int depth = 0; depth < 8 && rest.indexOf('(') >= 0; depth++) {
             rest = IN_BRACKETS.matcher(rest).replaceAll(DONE);
         }
         return WHOLE.matcher(rest).matches();
-    }
-
-    // Two bundles must not become one another's neighbours unseen, so what is glued to a bundle stays in the way.
-    private static String bundlesDone(String text) {
-        return BUNDLES.matcher(text).replaceAll(DONE);
     }
 
     /** A BID that begins with these characters, or null. */
@@ -58,6 +54,8 @@ public final class FaultTest {
         return places;
     }
 
+    // The one reading in it: a part begins at a character when it does in a BID that begins like the text up to there,
+    // whatever the text itself has behind it.
     private static int answerFor(String text) {
         if (isBid(text) && partsOf(text).size() <= 12) return BundleAuction.NONE;
         for (int place = 0; place < text.length(); place++) {
